@@ -45,9 +45,6 @@ public final class BoostForests {
         if (!areCells(a, b, c, d) || !isWithin(aim, -MOST_AIM, MOST_AIM) || !isWithin(weight, 1, MOST_WEIGHT)) {
             return BAD;
         }
-        if (table.number >= MOST_ROWS) {
-            return BAD;
-        }
         keepAsked(a, b, c, d);
         return table.append(asked, aim, weight);
     }
@@ -209,8 +206,10 @@ public final class BoostForests {
         final boolean[] held = new boolean[MOST_ROWS];
         int number;
 
-        /** Its callers have seen that there is room. */
         int append(int[] numbers, int aim, int weight) {
+            if (number >= MOST_ROWS) {
+                return BAD;
+            }
             int i = number;
             System.arraycopy(numbers, 0, cells[i], 0, COLUMNS);
             aims[i] = aim;
