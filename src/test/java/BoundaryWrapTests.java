@@ -14,8 +14,8 @@ public final class BoundaryWrapTests {
      * Found by a search: few rows are drawn, so that each tree throws the others further off, until the square of
      * the last root's G is above 2 to the power of 63. The last row is HELD.
      *
-     * Nothing but that square can run over: what the rows are off lies 51200 apart at first, and at most twice as
-     * far behind each round, so LOSS stays below 320 * (51200 * 2048)^2, less than 2 to the power of 62.
+     * LOSS has no such test, for it can't run over: what the rows are off lies, with 0, within 51200 at first, and
+     * within at most twice as much behind each round; so LOSS is at most 320 * (51200 * 2048)^2, below 2 to the 62nd.
      */
     private static final int[][] ROWS = {
         {13, 21, 9, 6, 96, 1}, {18, 13, 23, 25, -98, 8}, {22, 31, 6, 7, 94, 1}, {30, 25, 31, 23, -100, 8},
